@@ -797,10 +797,11 @@ public final class RoadBench {
         int all;
         int allRoads;
         /**
-         * The sets from this one on in steps of it, below the set of all, have every cut of the net: of a plain net a
+         * The sets side << sideShift, for each side from 1 on below this, have every cut of the net: of a plain net a
          * set and its rest have the same one, so those without post 0 are enough.
          */
-        int step;
+        private int sides;
+        private int sideShift;
         final int[] starts = new int[SETS_OF_POSTS];
         final int[] ends = new int[SETS_OF_POSTS];
         final int[] near = new int[SETS_OF_POSTS];
@@ -812,7 +813,8 @@ public final class RoadBench {
             turned = net.turned;
             all = setOfFirst(posts);
             allRoads = setOfFirst(roads);
-            step = turned ? 1 : 2;
+            sides = turned ? all : (all + 1) / 2;
+            sideShift = turned ? 0 : 1;
             readPosts(net);
             for (int set = 1; set <= all; set++) {
                 int low = set & -set;
@@ -884,15 +886,15 @@ public final class RoadBench {
                 return 0;
             }
             int hold = roads;
-            for (int set = step; set < all; set += step) {
-                hold = Math.min(hold, Integer.bitCount(cuts[set] & some));
+            for (int side = 1; side < sides; side++) {
+                hold = Math.min(hold, Integer.bitCount(cuts[side << sideShift] & some));
             }
             return hold;
         }
 
         boolean isHard(int some, int k) {
-            for (int set = step; set < all; set += step) {
-                if (Integer.bitCount(cuts[set] & some) < k) {
+            for (int side = 1; side < sides; side++) {
+                if (Integer.bitCount(cuts[side << sideShift] & some) < k) {
                     return false;
                 }
             }
@@ -901,8 +903,8 @@ public final class RoadBench {
 
         /** All hangs together when no set of posts is without a road out of it. */
         boolean hangsBy(int some) {
-            for (int set = step; set < all; set += step) {
-                if ((cuts[set] & some) == 0) {
+            for (int side = 1; side < sides; side++) {
+                if ((cuts[side << sideShift] & some) == 0) {
                     return false;
                 }
             }
@@ -932,8 +934,8 @@ public final class RoadBench {
 
         int howManyOfCut(int hold) {
             int count = 0;
-            for (int set = step; set < all; set += step) {
-                if (Integer.bitCount(cuts[set]) == hold) {
+            for (int side = 1; side < sides; side++) {
+                if (Integer.bitCount(cuts[side << sideShift]) == hold) {
                     count++;
                 }
             }
@@ -943,7 +945,8 @@ public final class RoadBench {
         /** The i-th set whose cut has so many roads; 0: there is none. */
         int setOfCut(int hold, int i) {
             int count = 0;
-            for (int set = step; set < all; set += step) {
+            for (int side = 1; side < sides; side++) {
+                int set = side << sideShift;
                 if (Integer.bitCount(cuts[set]) == hold) {
                     if (count == i) {
                         return set;
@@ -996,9 +999,9 @@ public final class RoadBench {
         /** A road is a bridge when it alone is the cut of some set. */
         int loneRoads() {
             int lone = 0;
-            for (int set = step; set < all; set += step) {
-                if (Integer.bitCount(cuts[set]) == 1) {
-                    lone |= cuts[set];
+            for (int side = 1; side < sides; side++) {
+                if (Integer.bitCount(cuts[side << sideShift]) == 1) {
+                    lone |= cuts[side << sideShift];
                 }
             }
             return lone;
@@ -1042,7 +1045,8 @@ public final class RoadBench {
                 return 0;
             }
             int hold = roads + pairs;
-            for (int set = step; set < all; set += step) {
+            for (int side = 1; side < sides; side++) {
+                int set = side << sideShift;
                 int size = Integer.bitCount(cuts[set]);
                 for (int i = 0; i < pairs; i++) {
                     boolean starting = has(set, numbers[2 * i]);
