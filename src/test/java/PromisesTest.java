@@ -422,6 +422,9 @@ public final class PromisesTest {
         Check.due("lay SIZE", x.lay(0), SIZE);
         x.put(0, 3, 3);
         Check.due("lay: BEYOND ahead of SIZE", x.lay(0), BEYOND);
+        x.put(0, 1, 3);
+        x.put(0, 3, 2);
+        Check.due("lay: BEYOND ahead of SIZE of a later pair", x.lay(0), BEYOND);
         x.put(0, 1, 1);
         x.put(0, 3, 0);
         fill(x, 0, 1, 17);
