@@ -1,16 +1,5 @@
 /** Each promise by itself: ordinary inputs, the edges that the document names, its findings and their order. */
-public final class PromisesTest {
-    private static final int BEYOND = -1;
-    private static final int MISSING = -2;
-    private static final int SIZE = -3;
-    private static final int KIND = -4;
-    private static final int FULL = -5;
-    private static final int NONE = -6;
-    private static final int LONG = -7;
-    private static final int TURNED = -8;
-    private static final int LOW = Integer.MIN_VALUE;
-    private static final int HIGH = Integer.MAX_VALUE;
-
+public final class PromisesTest extends WithNets {
     private PromisesTest() {
     }
 
@@ -58,55 +47,6 @@ public final class PromisesTest {
         told();
         findingsAreCounted();
         Check.end();
-    }
-
-    private static RoadBench net(boolean turned, int posts, int... pairs) {
-        RoadBench x = new RoadBench();
-        if (turned) {
-            x.anew(true);
-        }
-        for (int i = 0; i < posts; i++) {
-            x.post();
-        }
-        for (int i = 0; i < pairs.length; i += 2) {
-            x.road(pairs[i], pairs[i + 1]);
-        }
-        return x;
-    }
-
-    private static RoadBench plain(int posts, int... pairs) {
-        return net(false, posts, pairs);
-    }
-
-    private static RoadBench turned(int posts, int... pairs) {
-        return net(true, posts, pairs);
-    }
-
-    private static RoadBench fill(RoadBench x, int a, int b, int roads) {
-        for (int i = 0; i < roads; i++) {
-            x.road(a, b);
-        }
-        return x;
-    }
-
-    /** A net as a row of numbers, to see that an act left it as it was. */
-    private static String look(RoadBench x) {
-        StringBuilder text = new StringBuilder();
-        for (int what = 0; what < 4; what++) {
-            text.append(x.told(what)).append(' ');
-        }
-        for (int r = 0; r < x.told(1); r++) {
-            for (int what = 0; what < 4; what++) {
-                text.append(x.of(r, what)).append(what < 3 ? ',' : ' ');
-            }
-        }
-        return text.toString();
-    }
-
-    private static void tellAll(RoadBench x, int... numbers) {
-        for (int v : numbers) {
-            x.tell(v);
-        }
     }
 
     private static void aNewObject() {
