@@ -53,6 +53,7 @@ public final class BoundariesOfNetsTest extends WithNets {
         undoOfRefusedActs();
         undoOfActsThatChangedNothing();
         undoGoesRoundAndRound();
+        undoAtTheLimits();
         undoOfWhatIsNoSuchAct();
         Check.end();
     }
@@ -435,6 +436,35 @@ public final class BoundariesOfNetsTest extends WithNets {
             Check.due("undo(), and back: the price", x.of(0, 2), 2 * (left + 70));
         }
         Check.due("undo(), and no further", x.undo(), NONE);
+    }
+
+    /** Each act that a full net does not refuse, and its undo(). */
+    private static void undoAtTheLimits() {
+        RoadBench x = fill(plain(8), 6, 7, 19);
+        x.road(0, 7);
+        x.worth(19, false, 1000);
+        x.worth(19, true, 0);
+        x.keep(0);
+        x.sheet(0, 8, 0);
+        String full = look(x);
+        undone("drop(19)", x, x.drop(19), 19);
+        undone("join(6, 7)", x, x.join(6, 7), 7);
+        undone("take()", x, x.take(), 20);
+        undone("anew(true)", x, x.anew(true), 8);
+        undone("worth() of the strength", x, x.worth(19, true, 8), 0);
+        undone("worth() of the price", x, x.worth(19, false, 0), 1000);
+        undone("lay(0)", x, x.lay(0), 0);
+        undone("bring(0)", x, x.bring(0), 8);
+        looks("acts and undo() of a full net", x, full);
+    }
+
+    private static void undone(String act, RoadBench x, int got, int due) {
+        Check.due(act + " of a full net", got, due);
+        Check.due("undo() of " + act, x.undo(), 29);
+        Check.due("undo() of " + act + ": posts", x.told(0), 8);
+        Check.due("undo() of " + act + ": roads", x.told(1), 20);
+        Check.due("undo() of " + act + ": prices", x.told(5), 1019);
+        Check.due("undo() of " + act + ": the last strength", x.of(19, 3), 0);
     }
 
     private static void undoOfWhatIsNoSuchAct() {

@@ -22,6 +22,7 @@ public final class BoundariesOfSlotsTest extends WithNets {
         wayBeyond();
         wayOfTheSame();
         wayOfNoRoad();
+        wayOfARoadThatIsGone();
         wayWithAPostTwice();
         wayThroughEightPosts();
         wayOfSixty();
@@ -207,6 +208,18 @@ public final class BoundariesOfSlotsTest extends WithNets {
             Check.due("way: it is no finding", x.told(6), 0);
             Check.due("way: none wait", x.told(4), 0);
         }
+    }
+
+    private static void wayOfARoadThatIsGone() {
+        RoadBench x = plain(3, 1, 2, 0, 1);
+        x.drop(1);
+        Check.due("way of a road that is gone", tellAll(x, 1).way(0, 1), 0);
+        x.undo();
+        Check.due("way of a road that is there again", tellAll(x, 1).way(0, 1), 1);
+        x.anew(false);
+        x.post();
+        x.post();
+        Check.due("way of a road of the net before", tellAll(x, 1).way(0, 1), 0);
     }
 
     private static void wayWithAPostTwice() {
