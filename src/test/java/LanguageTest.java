@@ -29,8 +29,14 @@ public final class LanguageTest {
     public static void main(String[] args) throws IOException {
         face();
         namesInside();
+        membersOf(RoadBench.class);
+        for (Class<?> c : RoadBench.class.getDeclaredClasses()) {
+            membersOf(c);
+        }
         words();
+        lengths();
         room();
+        roomOfANewBench();
         Check.end();
     }
 
@@ -76,11 +82,39 @@ public final class LanguageTest {
             Check.holds(c + " has few fields", c.getDeclaredFields().length <= 20);
         }
         for (Method m : RoadBench.class.getDeclaredMethods()) {
-            Check.holds(m + " has few parameters", m.getParameterCount() <= 7);
             if (Modifier.isPrivate(m.getModifiers())) {
                 Check.holds(m + " bears no name of the face", !names.contains(m.getName()));
             }
         }
+    }
+
+    private static void membersOf(Class<?> c) {
+        for (Method m : c.getDeclaredMethods()) {
+            Check.holds(m + " has few parameters", m.getParameterCount() <= 7);
+        }
+        for (Field f : c.getDeclaredFields()) {
+            Check.holds(f + " is no static state",
+                    !Modifier.isStatic(f.getModifiers()) || Modifier.isFinal(f.getModifiers()));
+        }
+    }
+
+    /** A method ends at the first line that closes at its own depth. */
+    private static void lengths() throws IOException {
+        String end = null;
+        int length = 0;
+        int methods = 0;
+        for (String line : Files.readAllLines(Path.of("src/main/java/RoadBench.java"))) {
+            length++;
+            if (end == null && line.endsWith(") {") && line.matches(" {4}( {4})?[a-z].*")) {
+                end = line.replaceAll("\\S.*", "}");
+                length = 1;
+            } else if (line.equals(end)) {
+                Check.holds("a method of " + length + " lines", length <= 60);
+                end = null;
+                methods++;
+            }
+        }
+        Check.holds("methods are found: " + methods, methods > FACE.length + 1);
     }
 
     private static void words() throws IOException {
@@ -110,6 +144,18 @@ public final class LanguageTest {
         }
         long made = threads.getThreadAllocatedBytes(id) - before;
         Check.holds("2000 calls make no objects, but made " + made + " bytes", made < 4000);
+    }
+
+    /** All the room of a run is the bench's own rows: some 200 objects and arrays with some 5000 elements. */
+    private static void roomOfANewBench() {
+        com.sun.management.ThreadMXBean threads =
+                (com.sun.management.ThreadMXBean) ManagementFactory.getThreadMXBean();
+        long id = Thread.currentThread().getId();
+        long before = threads.getThreadAllocatedBytes(id);
+        RoadBench x = new RoadBench();
+        long made = threads.getThreadAllocatedBytes(id) - before;
+        Check.due("a new bench has no posts", x.told(0), 0);
+        Check.holds("a new bench is small, but made " + made + " bytes", made < 64_000);
     }
 
     private static void allCalls(RoadBench x) {
